@@ -350,6 +350,15 @@ public final class PromisesTest {
         due("none to forget", x.learnerOf(2, 1), 0);
         due("the day after", x.day(), 2);
         due("the next is forgotten", x.learnerOf(0, 1), 15);
+        WhichWayRound y = new WhichWayRound();
+        for (int i = 0; i < 8; i++) {
+            y.street(0, 1, 1);
+        }
+        y.learner(0);
+        y.knows(0, 7);
+        y.knows(0, 6);
+        y.day();
+        due("street 7 is forgotten first", y.learnerOf(0, 1), 64);
         due("a day back", x.back(), 4);
         due("known again", x.learnerOf(0, 1), 31);
     }
@@ -394,6 +403,58 @@ public final class PromisesTest {
         refused(x, "older ones no more", 2, x.back(), -3);
     }
 
+    private static void backOfAll() {
+        WhichWayRound x = aTown();
+        due("one that fails", x.tests(1, 3), 0);
+        due("counts", x.count(9), 1);
+        x.knows(2, 4);
+        x.sets(0, 0);
+        due("hour 0 was", x.sets(0, 9), 0);
+        due("counts, too", x.count(9), 4);
+        x.day();
+        x.day();
+        x.knows(2, 4);
+        x.knows(2, 5);
+        due("known", x.learnerOf(2, 1), 48);
+        due("back", x.back(), 7);
+        due("another's known back", x.learnerOf(2, 1), 16);
+        due("back", x.back(), 6);
+        due("forgotten", x.learnerOf(2, 1), 0);
+        due("twice forgotten", x.learnerOf(1, 1), 15);
+        due("back", x.back(), 5);
+        due("the day before", x.count(5), 1);
+        due("once forgotten", x.learnerOf(1, 1), 31);
+        due("back", x.back(), 4);
+        due("before all days", x.count(5), 0);
+        due("hour", x.count(3), 9);
+        due("all known", x.learnerOf(1, 1), 63);
+        due("one known", x.learnerOf(2, 1), 16);
+        due("back", x.back(), 3);
+        due("hour 0 back", x.count(3), 0);
+        due("back", x.back(), 2);
+        due("back", x.back(), 1);
+        due("not known back", x.learnerOf(2, 1), 0);
+        due("back", x.back(), 0);
+        due("the test back", x.learnerOf(1, 1), 0);
+        x.sets(0, 13);
+        due("held anew", x.count(9), 1);
+        x.back();
+        due("hour held anew", x.count(3), 8);
+    }
+
+    private static void backOfTheLastLearner() {
+        WhichWayRound x = aTown();
+        x.learner(0);
+        x.learner(0);
+        for (int s = 0; s < 6; s++) {
+            x.knows(4, s);
+        }
+        for (int s = 5; s >= 0; s--) {
+            due("back", x.back(), s);
+            due("known before " + s, x.learnerOf(4, 1), (1 << s) - 1);
+        }
+    }
+
     private static void whatLeavesNone() {
         WhichWayRound x = aTown();
         x.image();
@@ -420,6 +481,17 @@ public final class PromisesTest {
         due("an image leaves it", x.count(9), 1);
         x.restore();
         due("restore leaves none", x.count(9), 0);
+        WhichWayRound z = new WhichWayRound();
+        z.sets(1, 5);
+        z.street(0, 1, 1);
+        due("street 0 leaves none", z.count(9), 0);
+        z.sets(1, 5);
+        z.way(1);
+        due("way 0 leaves none", z.count(9), 0);
+        z.sets(1, 5);
+        z.learner(1);
+        due("learner 0 leaves none", z.count(9), 0);
+        refused(z, "none to take back", 0, z.back(), -3);
         WhichWayRound y = aTown();
         y.sets(1, 5);
         y.restore();
@@ -593,6 +665,15 @@ public final class PromisesTest {
         refused(x, "hour -1", 1, x.fair(-1, 7), -1);
         refused(x, "k -1", 0, x.fair(0, -1), -4);
         refused(x, "k 7", 0, x.fair(0, 7), -6);
+        WhichWayRound z = new WhichWayRound();
+        z.street(0, 0, 1);
+        z.street(4, 1, 1);
+        z.way(1);
+        z.way(2);
+        due("both without hard", z.fair(8, 0), 0);
+        z.street(0, 1, 1);
+        z.way(4);
+        due("one apart", z.fair(8, 0), 1);
         WhichWayRound y = new WhichWayRound();
         y.street(0, 9, 1);
         y.way(1);
@@ -672,6 +753,18 @@ public final class PromisesTest {
         due("of several the first", y.unlike(), 3);
     }
 
+    private static void unlikeWithMuchAlike() {
+        WhichWayRound x = new WhichWayRound();
+        x.street(0, 1, 1);
+        x.street(1, 1, 1);
+        x.way(3);
+        due("one is no two", x.unlike(), -9);
+        x.way(1);
+        due("a kind that both have counts", x.unlike(), 1);
+        x.way(2);
+        due("two that have all kinds together alone", x.unlike(), 12);
+    }
+
     private static void strict() {
         WhichWayRound x = aTown();
         // Faults on way 2 at 8 are 2, 11, 0; none above 5 in a street.
@@ -696,6 +789,31 @@ public final class PromisesTest {
         due("by no limit", x.strict(1, 0), 0);
         numbers(x, 2, 0);
         due("by every limit", x.strict(1, 0), 100);
+        // 4 and 3 faults at all hours.
+        WhichWayRound y = new WhichWayRound();
+        y.street(0, 4, 1);
+        y.way(1);
+        y.learner(0);
+        y.learner(1);
+        numbers(y, 0, 1);
+        due("one limit", y.strict(0, 0), 1);
+        due("that one", y.strict(0, 1), 3);
+        due("not with 11", y.strict(0, 2), 0);
+        y.sets(1, 3);
+        due("with 3", y.strict(0, 2), 0xffffff);
+        numbers(y, 0, 0);
+        due("below 3", y.strict(0, 0), 3);
+        numbers(y, 0, 2);
+        due("below 4", y.strict(0, 0), 4);
+        numbers(y, 0);
+        due("the first alone, hours", y.strict(0, 2), 0xffffff);
+        numbers(y, 1);
+        due("the first alone, no hours", y.strict(0, 2), 0);
+        numbers(y, 5, 5);
+        numbers(y);
+        due("numbers that were are none", y.strict(0, 0), 100);
+        numbers(y, 3);
+        refused(y, "the first above 2", 0, y.strict(0, 0), -3);
         numbers(x, 2, 2, 3);
         refused(x, "above 2", 0, x.strict(0, 0), -3);
         numbers(x, 2, 2, 2, 2);
@@ -726,6 +844,17 @@ public final class PromisesTest {
         // Way 1: learner 1 passes at 23, 0 and 1 o'clock.
         due("round", x.queue(1, -1), 3);
         due("round, third", x.queue(1, 2), 2);
+        // From 17 way 2: learner 1 has the ring's 6 then, and 11 at 18.
+        x.sets(0, 17);
+        due("1 later", x.queue(2, -1), 3);
+        due("0 ahead", x.queue(2, 0), 0);
+        due("1 behind", x.queue(2, 1), 1);
+        // From 14: 14 is the last hour before the ring's 6.
+        x.sets(0, 14);
+        due("1 at once", x.queue(2, -1), 3);
+        due("1 ahead", x.queue(2, 0), 1);
+        due("0 then", x.queue(2, 1), 0);
+        due("2 last", x.queue(2, 2), 2);
         refused(x, "way 4", 0, x.queue(4, -2), -1);
         refused(x, "i -2", 0, x.queue(0, -2), -4);
         WhichWayRound y = new WhichWayRound();
@@ -733,6 +862,10 @@ public final class PromisesTest {
         y.way(1);
         due("nobody", y.queue(0, -1), 0);
         due("nobody first", y.queue(0, 0), -9);
+        y.learner(0);
+        due("one passes", y.queue(0, -1), 1);
+        due("the one", y.queue(0, 0), 0);
+        due("no second", y.queue(0, 1), -9);
     }
 
     private static void lessons() {
@@ -746,6 +879,10 @@ public final class PromisesTest {
         due("with all", x.lessons(1, 3, 8), 6);
         x.knows(1, 0);
         due("with all but the known", x.lessons(1, 3, 8), 5);
+        x.sets(1, 10);
+        due("none at the limit", x.lessons(1, 1, 12), 0);
+        x.sets(1, 9);
+        due("one below the limit", x.lessons(1, 1, 12), 1);
         refused(x, "learner 3", 0, x.lessons(3, 0, 8), -1);
         refused(x, "way 4", 1, x.lessons(0, 4, 8), -1);
         refused(x, "hour 24", 2, x.lessons(0, 0, 24), -1);
@@ -836,6 +973,12 @@ public final class PromisesTest {
         due("0", x.skillWanted(1, 1, 12), 0);
         x.knows(0, 0);
         due("0 by what is known", x.skillWanted(0, 0, 8), 0);
+        x.knows(0, 0);
+        x.sets(1, 9);
+        due("1 at the limit", x.skillWanted(0, 0, 8), 1);
+        x.sets(1, 8);
+        due("2 below the limit", x.skillWanted(0, 0, 8), 2);
+        x.sets(1, 11);
         refused(x, "learner 3", 0, x.skillWanted(3, 0, 8), -1);
         refused(x, "way 4", 1, x.skillWanted(0, 4, 8), -1);
         refused(x, "hour 24", 2, x.skillWanted(0, 0, 24), -1);
@@ -844,6 +987,13 @@ public final class PromisesTest {
         y.way(1);
         y.learner(9);
         due("with none", y.skillWanted(0, 0, 8), -9);
+        y.street(0, 9, 1);
+        y.way(2);
+        y.sets(1, 0);
+        due("9", y.skillWanted(0, 1, 8), 9);
+        y.sets(1, 1);
+        due("8", y.skillWanted(0, 1, 8), 8);
+        y.sets(1, 11);
         y.knows(0, 0);
         // 22 less 9 are 13, half of it 6.
         due("with none, though known", y.skillWanted(0, 0, 8), -9);
@@ -917,6 +1067,8 @@ public final class PromisesTest {
             x.knows(2, s);
         }
         due("all known", x.gain(2, -1), -9);
+        x.sets(1, 0);
+        due("none passed with any", x.gain(1, -1), 0);
         refused(x, "learner 3", 0, x.gain(3, -1), -1);
         refused(x, "street 6", 1, x.gain(0, 6), -1);
         refused(x, "street -2", 2, x.gain(0, -2), -1);
@@ -941,6 +1093,12 @@ public final class PromisesTest {
         WhichWayRound y = new WhichWayRound();
         y.learner(0);
         due("no ways", y.career(0, 60), 0);
+        y.street(0, 4, 1);
+        y.way(1);
+        y.sets(1, 3);
+        due("one way, 4 once and 2 then", y.career(0, 5), 4);
+        y.sets(1, 4);
+        due("at the limit", y.career(0, 5), 5);
     }
 
     private static void toughest() {
@@ -976,6 +1134,19 @@ public final class PromisesTest {
         WhichWayRound x = aTown();
         due("way 3", x.longest(0), 3);
         due("24 minutes", x.longest(1), 24);
+        WhichWayRound z = aTown();
+        z.image();
+        z.street(0, 0, 9);
+        z.way(127);
+        due("way 4", z.longest(0), 4);
+        due("33 minutes", z.longest(1), 33);
+        WhichWayRound v = new WhichWayRound();
+        v.street(0, 1, 7);
+        v.street(0, 1, 2);
+        v.way(1);
+        v.way(2);
+        due("way 0", v.longest(0), 0);
+        due("its minutes", v.longest(1), 7);
         x.way(63);
         due("of several the least", x.longest(0), 3);
         refused(x, "what 2", 0, x.longest(2), -2);
@@ -1011,6 +1182,8 @@ public final class PromisesTest {
         due("none left then", x.count(8), 0);
         numbers(x, 1, 1, 1, 5, 0, 0, 0);
         due("no such street", x.judge(0), 6);
+        numbers(x, 2, 1);
+        due("not the first", x.judge(0), 0);
         x.sets(0, 15);
         x.knows(0, 3);
         numbers(x, 1, 1, 3, 2);
@@ -1147,6 +1320,8 @@ public final class PromisesTest {
         sets();
         day();
         back();
+        backOfAll();
+        backOfTheLastLearner();
         whatLeavesNone();
         wayOf();
         faults();
@@ -1159,6 +1334,7 @@ public final class PromisesTest {
         moped();
         made();
         unlike();
+        unlikeWithMuchAlike();
         strict();
         queue();
         lessons();
