@@ -796,6 +796,13 @@ final class BoundsOfPromises1To25 {
         due("all known are not enough", x.learn(0, 0, 0), -9);
     }
 
+    static void promise18IsBySkill() {
+        WhichWayRound x = with("061", "1", "1 0");
+        due("6 less 1", x.learn(0, 0, 0), 0);
+        due("6 less 0", x.learn(1, 0, 0), 1);
+        due("6 less 1, all ways", x.learn(0, -1, 0), 0);
+    }
+
     static void promise18LearnsForAllWaysWithWayMinus1() {
         WhichWayRound x = with("061 061 001", "1 2 4", "0");
         due("way 0", x.learn(0, 0, 0), 1);

@@ -276,6 +276,11 @@ final class BoundsOfPromises26To47 {
         due("street 1", x.lessons(0, 0, 0), 1);
     }
 
+    static void promise28IsBySkill() {
+        due("6 less 1", with("061", "1", "0 1").lessons(1, 0, 0), 0);
+        due("6 less 0", with("061", "1", "0 1").lessons(0, 0, 0), 1);
+    }
+
     static void promise28ShowsAll8() {
         WhichWayRound x = with(EIGHT_EASY, "255", "0");
         x.sets(1, 0);
@@ -712,6 +717,14 @@ final class BoundsOfPromises26To47 {
         due("without ways", with("061", "", "0").gain(0, 0), 0);
     }
 
+    static void promise36IsBySkill() {
+        WhichWayRound x = with("061 071", "1 2", "1 0");
+        due("6 less 1 is passed as it is", x.gain(0, 0), 0);
+        due("7 less 1 is not", x.gain(0, 1), 24);
+        due("the best of it", x.gain(0, -1), 1);
+        due("the best of the other's", x.gain(1, -1), 0);
+    }
+
     static void promise36Is0IfItIsKnown() {
         WhichWayRound x = with("061", "1", "0");
         x.knows(0, 0);
@@ -777,6 +790,12 @@ final class BoundsOfPromises26To47 {
         due("behind it", x.career(0, 2), 1);
         due("59 of 60", x.career(0, 60), 59);
         due("is none of now", x.learnerOf(0, 1), 0);
+    }
+
+    static void promise37IsBySkill() {
+        WhichWayRound x = with("061", "1", "1 0");
+        due("6 less 1", x.career(0, 1), 1);
+        due("6 less 0", x.career(1, 1), 0);
     }
 
     static void promise37BeginsWithWhatIsKnown() {
