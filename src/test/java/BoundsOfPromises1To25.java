@@ -144,6 +144,21 @@ final class BoundsOfPromises1To25 {
         due("nothing is told", x.town(), -1000);
     }
 
+    static void promise3LeavesTheRowTheImageAndRefusals() {
+        WhichWayRound x = Bounds.changed();
+        x.way(0);
+        due("a town", Bounds.told(x, "h03;m04;"), 2);
+        due("numbers", x.count(8), 6);
+        due("refusals", x.count(14), 1);
+        due("a fault", Bounds.told(x, "h24;"), -2000);
+        due("another", Bounds.told(x, "h2"), -1002);
+        due("numbers", x.count(8), 6);
+        due("refusals", x.count(14), 1);
+        x.restore();
+        due("hour of the image", x.count(3), 8);
+        due("limit of the image", x.count(4), 11);
+    }
+
     static void promise3CountsNothing() {
         WhichWayRound x = new WhichWayRound();
         String[] faults = {"", "x", "d", "s601;", "s000;", "w000;", "w001;", "k00;", "h24;", "t00;", "l0;l0;l0;l0;l0;l0;"};
@@ -381,6 +396,13 @@ final class BoundsOfPromises1To25 {
         due("known", x.learnerOf(4, 1), 2);
     }
 
+    static void promise9IsOfTheLearnerAndTheWayTold() {
+        WhichWayRound x = with("061 051", "1 2", "0 1");
+        due("6 on way 0", x.tests(0, 0), 0);
+        due("5 on way 1", x.tests(0, 1), 1);
+        due("6 less 1", x.tests(1, 0), 1);
+    }
+
     static void promise9RefusesNoSuchLearner() {
         Bounds.refused(-1, Bounds::some, x -> x.tests(-1, 0), x -> x.tests(3, 0), x -> x.tests(SMALL, 3), x -> x.tests(GREAT, 3));
         Bounds.refused(-1, Bounds::full, x -> x.tests(5, 5));
@@ -504,6 +526,14 @@ final class BoundsOfPromises1To25 {
         due("counted", x.count(9), 0);
     }
 
+    static void promise13LeavesRefusals() {
+        WhichWayRound x = new WhichWayRound();
+        x.day();
+        x.way(0);
+        x.back();
+        due("refusals", x.count(14), 1);
+    }
+
     static void promise13RefusesNone() {
         Bounds.refused(-3, Bounds::empty, x -> x.back());
         Bounds.refused(-3, Bounds::aTown, x -> x.back());
@@ -603,6 +633,18 @@ final class BoundsOfPromises1To25 {
         due("none", with("001", "1", "0").faults(0, 0, 8, 0), 0);
     }
 
+    static void promise15IsOfTheLearnerTheWayAndTheHourTold() {
+        WhichWayRound x = with("231 051", "3 2", "0 0");
+        x.knows(1, 0);
+        int[][] dues = {{0, 0, 14, 9, 1, 1}, {0, 0, 15, 11, 0, 0}, {0, 1, 15, 5, 1, 1}, {1, 0, 15, 8, 1, 1}, {1, 1, 14, 5, 1, 1}};
+        for (int[] each : dues) {
+            for (int what = 0; what <= 2; what++) {
+                String call = "learner " + each[0] + " way " + each[1] + " at " + each[2] + " what " + what;
+                due(call, x.faults(each[0], each[1], each[2], what), each[3 + what]);
+            }
+        }
+    }
+
     static void promise15TakesHours0And23() {
         WhichWayRound x = Bounds.aTown();
         due("0", x.faults(1, 0, 0, 0), 12);
@@ -657,6 +699,13 @@ final class BoundsOfPromises1To25 {
         due("whatever the hour is", x.bestHour(0, 0, 1), Bounds.ALL_HOURS & ~(7 << 15));
     }
 
+    static void promise16IsOfTheLearnerAndTheWayTold() {
+        WhichWayRound x = with("061 051", "1 2", "0 1");
+        due("6 on way 0", x.bestHour(0, 0, 1), 0);
+        due("5 on way 1", x.bestHour(0, 1, 1), Bounds.ALL_HOURS);
+        due("6 less 1", x.bestHour(1, 0, 1), Bounds.ALL_HOURS);
+    }
+
     static void promise16RefusesNoSuchLearner() {
         Bounds.refused(-1, Bounds::some, x -> x.bestHour(-1, 0, 0), x -> x.bestHour(3, 0, 0), x -> x.bestHour(SMALL, 0, 1),
             x -> x.bestHour(GREAT, 0, 1));
@@ -704,6 +753,24 @@ final class BoundsOfPromises1To25 {
         int[][] dues = {{0, 0}, {14, 0}, {15, 1}, {17, 1}, {18, 0}, {23, 0}};
         for (int[] each : dues) {
             due("at " + each[0], x.easiest(0, each[0], 0), each[1]);
+        }
+    }
+
+    static void promise17IsOfTheLearnerTold() {
+        WhichWayRound x = with("071 061", "1 2", "0 1 0");
+        x.knows(2, 0);
+        int[][] dues = {{0, 1, 0}, {1, 1, 2}, {2, 0, 1}};
+        for (int[] each : dues) {
+            due("easiest of " + each[0], x.easiest(each[0], 0, 0), each[1]);
+            due("ways of " + each[0], x.easiest(each[0], 0, 1), each[2]);
+        }
+    }
+
+    static void promise17WaysAreAtTheHourTold() {
+        WhichWayRound x = with("231", "1", "0");
+        int[][] dues = {{0, 1}, {14, 1}, {15, 0}, {17, 0}, {18, 1}, {23, 1}};
+        for (int[] each : dues) {
+            due("at " + each[0], x.easiest(0, each[0], 1), each[1]);
         }
     }
 
@@ -803,6 +870,14 @@ final class BoundsOfPromises1To25 {
         due("6 less 1, all ways", x.learn(0, -1, 0), 0);
     }
 
+    static void promise18IsByWhatTheLearnerKnows() {
+        WhichWayRound x = with("061", "1", "0 0");
+        x.knows(1, 0);
+        due("not known", x.learn(0, 0, 0), 1);
+        due("known", x.learn(1, 0, 0), 0);
+        due("known, all ways", x.learn(1, -1, 0), 0);
+    }
+
     static void promise18LearnsForAllWaysWithWayMinus1() {
         WhichWayRound x = with("061 061 001", "1 2 4", "0");
         due("way 0", x.learn(0, 0, 0), 1);
@@ -880,6 +955,16 @@ final class BoundsOfPromises1To25 {
         }
     }
 
+    static void promise19IsOfTheLearnerTold() {
+        WhichWayRound x = with("061 061", "1 2", "0 1 0");
+        x.knows(2, 0);
+        int[][] dues = {{0, 0, 1}, {1, 1, 1}, {2, 1, 2}};
+        for (int[] each : dues) {
+            due("above of " + each[0], x.drawnWay(each[0], 0, 0), each[1]);
+            due("below of " + each[0], x.drawnWay(each[0], 0, 1), each[2]);
+        }
+    }
+
     static void promise19RefusesNoSuchLearner() {
         Bounds.refusedLong(-1, Bounds::some, x -> x.drawnWay(-1, 8, 0), x -> x.drawnWay(3, 8, 0), x -> x.drawnWay(SMALL, 8, 1),
             x -> x.drawnWay(GREAT, 8, 1));
@@ -941,6 +1026,18 @@ final class BoundsOfPromises1To25 {
         due("4 and 5", with("001 001 001", "1 1 1 1 7 6", "").mostAlike(), 45);
     }
 
+    static void promise21MayBeAnyTwo() {
+        for (int a = 0; a < 6; a++) {
+            for (int b = a + 1; b < 6; b++) {
+                WhichWayRound x = with(EIGHT_EASY, "", "");
+                for (int w = 0; w < 6; w++) {
+                    x.way(1 << (w == b ? a : w));
+                }
+                due("two", x.mostAlike(), 10 * a + b);
+            }
+        }
+    }
+
     // ---- 22: fair
 
     static void promise22Is0OfFewerThanTwoWays() {
@@ -994,6 +1091,14 @@ final class BoundsOfPromises1To25 {
         int[][] dues = {{0, 0}, {14, 0}, {15, 2}, {17, 2}, {18, 0}, {23, 0}};
         for (int[] each : dues) {
             due("at " + each[0], x.fair(each[0], 0), each[1]);
+        }
+    }
+
+    static void promise22SetIsAtTheHourTold() {
+        WhichWayRound x = with("201 011 031", "1 2 4", "");
+        int[][] dues = {{0, 3}, {14, 3}, {15, 5}, {17, 5}, {18, 3}, {23, 3}};
+        for (int[] each : dues) {
+            due("at " + each[0], x.fair(each[0], 2), each[1]);
         }
     }
 
@@ -1191,5 +1296,17 @@ final class BoundsOfPromises1To25 {
     static void promise25MayBeOfTheLast() {
         due("0 and 5", with("001 101", "1 1 1 1 1 2", "").unlike(), 5);
         due("4 and 5", with("001 101 201", "1 1 1 1 3 4", "").unlike(), 45);
+    }
+
+    static void promise25MayBeAnyTwo() {
+        for (int a = 0; a < 6; a++) {
+            for (int b = a + 1; b < 6; b++) {
+                WhichWayRound x = with("001 101", "", "");
+                for (int w = 0; w < 6; w++) {
+                    x.way(w == a ? 1 : w == b ? 2 : 3);
+                }
+                due("two", x.unlike(), 10 * a + b);
+            }
+        }
     }
 }

@@ -119,6 +119,25 @@ final class BoundsOfPromises26To47 {
         due("passed at the others", x.strict(0, 2), Bounds.ALL_HOURS & ~(7 << 15));
     }
 
+    static void promise26IsOfTheWayTold() {
+        WhichWayRound x = examined(1);
+        strict(x, 0, 90, 10);
+        strict(x, 1, 0, -9);
+        due("hours of way 0", x.strict(0, 2), Bounds.ALL_HOURS);
+        due("hours of way 1", x.strict(1, 2), 0);
+    }
+
+    static void promise26IsByWhatEachKnows() {
+        WhichWayRound x = with("061", "1", "0 0");
+        x.knows(1, 0);
+        Bounds.row(x, 0, 1);
+        strict(x, 0, 97, 3);
+        due("hours", x.strict(0, 2), Bounds.ALL_HOURS);
+        Bounds.row(x, 1, 2);
+        strict(x, 0, 0, -9);
+        due("no hours", x.strict(0, 2), 0);
+    }
+
     static void promise26TheRowStays() {
         WhichWayRound x = examined(0, 1, 2);
         for (int what = 0; what <= 2; what++) {
@@ -155,6 +174,9 @@ final class BoundsOfPromises26To47 {
         Bounds.refused(-3, () -> examined(1, 1, 3), x -> x.strict(0, 0));
         Bounds.refused(-3, () -> examined(99), x -> x.strict(0, 0));
         Bounds.refused(-3, () -> examined(1, 99), x -> x.strict(0, 2));
+        for (int number = 3; number <= 99; number++) {
+            due("number " + number, examined(number).strict(0, 0), -3);
+        }
     }
 
     static void promise26RefusesInOrder() {
@@ -279,6 +301,27 @@ final class BoundsOfPromises26To47 {
     static void promise28IsBySkill() {
         due("6 less 1", with("061", "1", "0 1").lessons(1, 0, 0), 0);
         due("6 less 0", with("061", "1", "0 1").lessons(0, 0, 0), 1);
+    }
+
+    static void promise28IsBySkillBehindALesson() {
+        WhichWayRound x = with("591", "1", "0 2");
+        due("13 known are 6", x.lessons(0, 0, 15), -9);
+        due("11 known are 5", x.lessons(1, 0, 15), 1);
+    }
+
+    static void promise28IsByWhatTheLearnerKnows() {
+        WhichWayRound x = with("061", "1", "0 0");
+        x.knows(1, 0);
+        due("not known", x.lessons(0, 0, 0), 1);
+        due("known", x.lessons(1, 0, 0), 0);
+    }
+
+    static void promise28IsOfTheWayTold() {
+        WhichWayRound x = with("001 061 591", "1 2 4", "0");
+        due("passed as it is", x.lessons(0, 0, 15), 0);
+        due("with one", x.lessons(0, 1, 15), 1);
+        due("not with all", x.lessons(0, 2, 15), -9);
+        due("with one, where way 0 is not passed", with("591 061", "1 2", "0").lessons(0, 1, 15), 1);
     }
 
     static void promise28ShowsAll8() {
@@ -416,6 +459,24 @@ final class BoundsOfPromises26To47 {
         ball(with("061 051 061", "2", "0"), 0, 4, 3, 4);
     }
 
+    static void promise29IsOfTheLearnerTold() {
+        WhichWayRound x = with("051", "1", "0 1 0");
+        x.knows(2, 0);
+        x.sets(1, 4);
+        int[][] dues = {{0, 0, 1}, {1, 3, 4}, {2, 1, 1}};
+        for (int[] each : dues) {
+            due("above of " + each[0], x.ball(each[0], 0, 4, 0), each[1]);
+            due("below of " + each[0], x.ball(each[0], 0, 4, 1), each[2]);
+        }
+    }
+
+    static void promise29IsOfTheWayTold() {
+        WhichWayRound x = with("041 051 051", "1 6", "0");
+        ball(x, 0, 4, 1, 1);
+        // No ball in either street.
+        ball(x, 1, 4, 9, 16);
+    }
+
     static void promise29RefusesNoSuchLearner() {
         Bounds.refusedLong(-1, Bounds::some, x -> x.ball(-1, 0, 2, 0), x -> x.ball(3, 0, 2, 0), x -> x.ball(SMALL, 0, 2, 1),
             x -> x.ball(GREAT, 0, 2, 1));
@@ -521,6 +582,12 @@ final class BoundsOfPromises26To47 {
         ranks(x, 0, 1, 0);
     }
 
+    static void promise31IsOnTheWayTold() {
+        WhichWayRound x = with("091 001", "1 2", "0 1");
+        ranks(x, 0, 1, 0, -9);
+        ranks(x, 1, 0, 1, -9);
+    }
+
     static void promise31RefusesNoSuchWay() {
         Bounds.refused(-1, Bounds::some, x -> x.rank(-1, 0), x -> x.rank(4, 0), x -> x.rank(SMALL, 0), x -> x.rank(GREAT, 0));
         Bounds.refused(-1, Bounds::full, x -> x.rank(6, 0));
@@ -571,6 +638,13 @@ final class BoundsOfPromises26To47 {
         due("not known", x.skillWanted(1, 0, 8), -9);
     }
 
+    static void promise32IsOfTheWayAndTheHourTold() {
+        WhichWayRound x = with("091 251", "1 2", "0");
+        due("9", x.skillWanted(0, 0, 15), 4);
+        due("8", x.skillWanted(0, 1, 15), 3);
+        due("6", x.skillWanted(0, 1, 14), 1);
+    }
+
     static void promise32RefusesAny() {
         Bounds.refused(-1, Bounds::some, x -> x.skillWanted(-1, 0, 8), x -> x.skillWanted(3, 0, 8), x -> x.skillWanted(0, -1, 8),
             x -> x.skillWanted(0, 4, 8), x -> x.skillWanted(0, 0, -1), x -> x.skillWanted(0, 0, 24),
@@ -612,6 +686,16 @@ final class BoundsOfPromises26To47 {
         due("it stays", x.count(4), 99);
     }
 
+    static void promise33IsByWhatEachKnows() {
+        WhichWayRound x = with("061", "1", "0 0");
+        x.knows(0, 0);
+        due("6 of the other", x.limitWanted(), -9);
+        x.knows(1, 0);
+        due("3 of both", x.limitWanted(), 3);
+        x.knows(0, 0);
+        due("6 of the first", x.limitWanted(), -9);
+    }
+
     static void promise33IsAtHour() {
         WhichWayRound x = with("221", "1", "0");
         x.sets(0, 14);
@@ -645,6 +729,12 @@ final class BoundsOfPromises26To47 {
 
     static void promise34CountsThoseWhoPass() {
         rush(with("091", "1", "4 3 9 0 8"), 0, 3);
+    }
+
+    static void promise34IsOfTheWayTold() {
+        WhichWayRound x = with("061 051", "1 2", "0");
+        due("6", x.rush(0, 1), 0);
+        due("5", x.rush(1, 1), 1);
     }
 
     static void promise34RefusesNoSuchWay() {
@@ -723,6 +813,17 @@ final class BoundsOfPromises26To47 {
         due("7 less 1 is not", x.gain(0, 1), 24);
         due("the best of it", x.gain(0, -1), 1);
         due("the best of the other's", x.gain(1, -1), 0);
+        due("6 less 0 is not passed as it is", x.gain(1, 0), 24);
+        due("nor 7", x.gain(1, 1), 24);
+    }
+
+    static void promise36IsByWhatTheLearnerKnows() {
+        WhichWayRound x = with("061 061", "1 2", "0 0");
+        x.knows(1, 0);
+        due("not known", x.gain(0, 0), 24);
+        due("known", x.gain(1, 0), 0);
+        due("the best of one", x.gain(0, -1), 0);
+        due("the best of the other", x.gain(1, -1), 1);
     }
 
     static void promise36Is0IfItIsKnown() {
@@ -799,9 +900,10 @@ final class BoundsOfPromises26To47 {
     }
 
     static void promise37BeginsWithWhatIsKnown() {
-        WhichWayRound x = with("061", "1", "0");
-        x.knows(0, 0);
-        due("at once", x.career(0, 1), 1);
+        WhichWayRound x = with("061", "1", "0 0");
+        x.knows(1, 0);
+        due("at once", x.career(1, 1), 1);
+        due("not another's", x.career(0, 1), 0);
     }
 
     static void promise37IsByTheLimit() {
@@ -868,6 +970,7 @@ final class BoundsOfPromises26To47 {
     static void promise38IsOfAllTogether() {
         due("15 alone has both", with("301 201", "3", "").toughest(0), 15);
         due("of the way's streets alone", with("301 201", "1 2", "").toughest(0), 8);
+        due("of the other way's", with("301 201", "1 2", "").toughest(1), 15);
     }
 
     static void promise38IsWhateverTheHourIs() {
@@ -1038,6 +1141,13 @@ final class BoundsOfPromises26To47 {
         due("nothing of it", x.judge(0), -9);
     }
 
+    static void promise42LeavesTheLetters() {
+        WhichWayRound x = Bounds.some();
+        x.judge(0);
+        due("letters", x.count(7), 6);
+        due("a town", x.town(), 2);
+    }
+
     static void promise42RefusesNoSuchLearnerAndTheRowStays() {
         Bounds.refused(-1, Bounds::some, x -> x.judge(-1), x -> x.judge(3), x -> x.judge(SMALL), x -> x.judge(GREAT));
         Bounds.refused(-1, Bounds::full, x -> x.judge(5));
@@ -1060,6 +1170,13 @@ final class BoundsOfPromises26To47 {
         due("none", x.count(8), 0);
         due("had none", x.clear(), 0);
         due("nothing of it", x.judge(0), -9);
+    }
+
+    static void promise43LeavesTheLetters() {
+        WhichWayRound x = Bounds.some();
+        x.clear();
+        due("letters", x.count(7), 6);
+        due("a town", x.town(), 2);
     }
 
     // ---- 44: lots
@@ -1108,10 +1225,22 @@ final class BoundsOfPromises26To47 {
         due("three days", with("001 011", "1 2", "0").lots(3, 0, 1), 2);
     }
 
+    static void promise44CountsWhoPassesThatWayAtThatHour() {
+        // From -1: hour 17, way 1 of 2: a ring has 6 there, at other hours 4.
+        WhichWayRound x = with("001 231", "1 2", "0");
+        due("not passed", x.lots(1, -1, 0), 0);
+        due("its faults", x.lots(1, -1, 1), 6);
+        due("passed by the second alone", with("061", "1", "0 1").lots(1, 7, 0), 1);
+        due("passed by the first alone", with("061", "1", "1 0").lots(1, 7, 0), 1);
+    }
+
     static void promise44LearnersAreByNumbers() {
         // From 0: 0, 21468, 9988, 22117: the first is on way 0 of 2, the second on way 1.
         due("0 on way 0, 5 on way 1", with("041 051", "1 2", "9 0").lots(1, 0, 1), 5);
         due("4 on way 0, 0 on way 1", with("041 051", "1 2", "0 9").lots(1, 0, 1), 4);
+        // From 7: 9806, 22674, 3365, 31790: each day both, on the ways 0 and 0, then 1 and 0.
+        due("two days, the second's", with("041 051", "1 2", "9 0").lots(2, 7, 1), 8);
+        due("two days, the first's", with("041 051", "1 2", "0 9").lots(2, 7, 1), 9);
     }
 
     static void promise44Is0WithoutWays() {

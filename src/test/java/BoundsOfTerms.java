@@ -262,11 +262,18 @@ final class BoundsOfTerms {
         due("half of 9", faults("091", 0, true), 4);
         due("half behind the skill: of 9 less 2", faults("091", 2, true), 3);
         due("each by itself: 3 and 3 are 1 and 1", knownBoth().faults(0, 0, 0, 0), 2);
+        due("in that street alone", knownOne().faults(0, 0, 0, 0), 4);
     }
 
     private static WhichWayRound knownBoth() {
         WhichWayRound x = with("031 031", "3", "0");
         x.knows(0, 0);
+        x.knows(0, 1);
+        return x;
+    }
+
+    private static WhichWayRound knownOne() {
+        WhichWayRound x = with("031 031", "3", "0");
         x.knows(0, 1);
         return x;
     }
@@ -522,6 +529,19 @@ final class BoundsOfTerms {
         due("day", x.count(5), 0);
     }
 
+    static void termTakenBackIsWhatEachKnew() {
+        WhichWayRound x = with("001 001 001 001 001", "", "0 0 0 0 0");
+        for (int l = 0; l < 5; l++) {
+            x.knows(l, l);
+        }
+        x.day();
+        due("all forgotten", x.count(6), 0);
+        x.back();
+        for (int l = 0; l < 5; l++) {
+            due("known again", x.learnerOf(l, 1), 1 << l);
+        }
+    }
+
     static void termTakenBackCountsWhatChangesNothing() {
         WhichWayRound x = with("001", "1", "0");
         x.sets(0, 8);
@@ -651,6 +671,27 @@ final class BoundsOfTerms {
         x.back();
         due("limit", x.count(4), 11);
         due("it is none itself", x.count(9), 0);
+    }
+
+    static void termTakenBackLeavesLettersRowAndImage() {
+        WhichWayRound x = oneChange();
+        Bounds.feed(x, "h1");
+        Bounds.row(x, 0, 1);
+        x.back();
+        due("letters", x.count(7), 2);
+        due("numbers", x.count(8), 2);
+        x.sets(1, 7);
+        x.image();
+        x.sets(1, 8);
+        x.back();
+        x.sets(1, 9);
+        x.sets(1, 10);
+        x.back();
+        x.restore();
+        due("limit of the image", x.count(4), 7);
+        Bounds.feed(x, "1;");
+        due("as they were told", x.town(), 1);
+        due("hour", x.count(3), 11);
     }
 
     // ---- THE IMAGE
@@ -798,6 +839,51 @@ final class BoundsOfTerms {
         x.knows(0, 0);
         x.restore();
         due("the later one", x.learnerOf(0, 1), 1);
+    }
+
+    // ---- what is asked
+
+    /** Some, with a row that tells who passed. */
+    private static WhichWayRound someExamined() {
+        WhichWayRound x = Bounds.some();
+        Bounds.row(x, 1, 0, 2);
+        return x;
+    }
+
+    /** Each is asked twice, and answers alike. */
+    private static void asked(Bounds.Start start, Bounds.Call... calls) {
+        for (int i = 0; i < calls.length; i++) {
+            WhichWayRound x = start.made();
+            WhichWayRound twin = start.made();
+            long first = calls[i].on(x);
+            due("call " + i + ", again", calls[i].on(x), first);
+            for (int what = 11; what <= 16; what++) {
+                due("count " + what + " by call " + i, x.count(what), twin.count(what));
+            }
+            Bounds.same("call " + i, x, twin);
+        }
+    }
+
+    private static void allAsked(Bounds.Start start) {
+        asked(start, x -> x.streetOf(1, 0), x -> x.streetOf(1, 1), x -> x.streetOf(1, 2), x -> x.streetOf(1, 3),
+            x -> x.streetOf(1, 4), x -> x.learnerOf(1, 0), x -> x.learnerOf(1, 1), x -> x.wayOf(1, 15, 0),
+            x -> x.wayOf(1, 15, 1), x -> x.wayOf(1, 15, 2), x -> x.wayOf(1, 15, 3), x -> x.faults(1, 1, 15, 0),
+            x -> x.faults(1, 1, 15, 1), x -> x.faults(1, 1, 15, 2), x -> x.bestHour(1, 1, 0), x -> x.bestHour(1, 1, 1),
+            x -> x.easiest(1, 15, 0), x -> x.easiest(1, 15, 1), x -> x.learn(1, 1, 15), x -> x.learn(1, -1, 9),
+            x -> x.drawnWay(1, 15, 0), x -> x.drawnWay(1, 15, 1), x -> x.alike(1, 2), x -> x.mostAlike(),
+            x -> x.fair(15, 0), x -> x.fair(15, 2), x -> x.moped(2, 0), x -> x.moped(2, 1), x -> x.made(1, 9, 20),
+            x -> x.unlike(), x -> x.queue(1, -1), x -> x.queue(1, 0), x -> x.queue(1, 9), x -> x.lessons(1, 3, 15),
+            x -> x.ball(1, 1, 3, 0), x -> x.ball(1, 1, 3, 1), x -> x.crowded(0), x -> x.crowded(1), x -> x.crowded(2),
+            x -> x.rank(1, 0), x -> x.rank(1, 9), x -> x.skillWanted(1, 3, 15), x -> x.limitWanted(), x -> x.rush(1, 0),
+            x -> x.rush(1, 1), x -> x.newcomer(0), x -> x.newcomer(9), x -> x.gain(1, 0), x -> x.gain(1, -1),
+            x -> x.career(1, 60), x -> x.toughest(1), x -> x.equal(), x -> x.longest(0), x -> x.longest(1),
+            x -> x.lots(20, 1, 0), x -> x.lots(20, 1, 1), x -> x.count(3), x -> x.count(99));
+    }
+
+    static void termAskingChangesNothing() {
+        allAsked(BoundsOfTerms::someExamined);
+        allAsked(Bounds::full);
+        asked(BoundsOfTerms::someExamined, x -> x.strict(3, 0), x -> x.strict(3, 1), x -> x.strict(3, 2));
     }
 
     // ---- REFUSALS
