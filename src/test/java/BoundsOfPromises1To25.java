@@ -398,8 +398,8 @@ final class BoundsOfPromises1To25 {
 
     static void promise9IsOfTheLearnerAndTheWayTold() {
         WhichWayRound x = with("061 051", "1 2", "0 1");
-        due("6 on way 0", x.tests(0, 0), 0);
         due("5 on way 1", x.tests(0, 1), 1);
+        due("6 on way 0", x.tests(0, 0), 0);
         due("6 less 1", x.tests(1, 0), 1);
     }
 

@@ -840,6 +840,7 @@ final class BoundsOfPromises26To47 {
     }
 
     static void promise36BestHasMost() {
+        due("the first", with("061 001 061", "1 1 4", "0").gain(0, -1), 0);
         due("the last", with("061 001 061", "1 4 4", "0").gain(0, -1), 2);
         due("24 above 3", with("231 061", "1 2", "0").gain(0, -1), 1);
     }
