@@ -514,6 +514,43 @@ final class BoundsOfPromises1To25 {
         due("in letters, 1000", Bounds.told(x, "d;"), -2000);
     }
 
+    /** Behind a change of some other: letters, row, image and the refusals are as they were. */
+    private static void leavesAllElse(Bounds.Call change) {
+        WhichWayRound x = Bounds.some();
+        // Of the image: learner 0 has 1, 1, 1, 5, 0, 0 faults.
+        Bounds.row(x, 1, 1, 1, 5, 0, 9);
+        x.way(0);
+        change.on(x);
+        due("letters", x.count(7), 6);
+        due("numbers", x.count(8), 6);
+        due("refusals", x.count(14), 1);
+        x.restore();
+        due("limit of the image", x.count(4), 11);
+        due("hour of the image", x.count(3), 8);
+        due("day of the image", x.count(5), 0);
+        due("known of the image", x.learnerOf(0, 1) + x.learnerOf(1, 1) + x.learnerOf(2, 1), 32);
+        due("faults as told: not so is the last", x.judge(0), 5);
+        due("the letters as told", x.town(), 2);
+        due("hour 5", x.count(3), 5);
+    }
+
+    static void promise9LeavesAllElse() {
+        leavesAllElse(x -> x.tests(0, 3));
+    }
+
+    static void promise10LeavesAllElse() {
+        leavesAllElse(x -> x.knows(0, 3));
+    }
+
+    static void promise11LeavesAllElse() {
+        leavesAllElse(x -> x.sets(0, 3));
+        leavesAllElse(x -> x.sets(1, 3));
+    }
+
+    static void promise12LeavesAllElse() {
+        leavesAllElse(x -> x.day());
+    }
+
     // ---- 13: back
 
     static void promise13TellsHowManyCanStillBe() {

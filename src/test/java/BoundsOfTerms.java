@@ -344,13 +344,14 @@ final class BoundsOfTerms {
 
     static void termDayMakesHour8() {
         WhichWayRound x = new WhichWayRound();
+        x.sets(1, 3);
         x.sets(0, 23);
         x.day();
         due("from 23", x.count(3), 8);
         x.sets(0, 0);
         x.day();
         due("from 0", x.count(3), 8);
-        due("the limit stays", x.count(4), 11);
+        due("the limit stays", x.count(4), 3);
     }
 
     static void termDayForgetsTheGreatestKnownOfEach() {
