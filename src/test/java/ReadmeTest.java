@@ -80,7 +80,7 @@ public final class ReadmeTest {
         for (String line : lines) {
             Matcher told = ANSWERED.matcher(line);
             if (!told.matches()) {
-                if (line.startsWith("x.")) {
+                if (line.matches("((int|long) \\w+ = )?x\\..*")) {
                     tell("no answer is told of " + line);
                 }
                 source.append(line).append('\n');
